@@ -520,7 +520,7 @@ public final class UnitShares {
         private void leaveOutLonely() {
             for (int i = 0; i < LONELY.length; i++) {
                 int power = LONELY[i];
-                if (target.below % power != 0) {
+                if (power > 0 && target.below % power != 0) {
                     for (int m = power; m < usable.length; m += power) {
                         usable[m] = false;
                     }

@@ -133,8 +133,8 @@ public final class PromiseTests {
                 due("isOf(" + n + ", " + sort + ")", u.isOf(n, sort), sorts[sort].contains(" " + n + " ") ? 1 : 0);
             }
         }
-        int[] sizes = {119, 59, 60, 0, 0, 9};
-        for (int sort : new int[] {0, 1, 2, 5}) {
+        int[] sizes = {119, 59, 60, 20, 89, 9};
+        for (int sort = 0; sort <= 5; sort++) {
             int total = 0;
             for (int n = 2; n <= 120; n++) {
                 total += u.isOf(n, sort);
@@ -340,6 +340,27 @@ public final class PromiseTests {
         }
         due("count(4)", u.count(4), 3);
         due("done()", u.done(), 1);
+        greedyJustWithinAndJustBeyond();
+    }
+
+    /** The fractions that come closest to the largest step and to the largest lower part. */
+    private static void greedyJustWithinAndJustBeyond() {
+        UnitShares u = new UnitShares();
+        due("greedy(804, 845)", u.greedy(804, 845), 6);
+        due("step(5)", u.step(5), 999760905);
+        due("done()", u.done(), 1);
+        due("greedy(177, 832)", u.greedy(177, 832), 3);
+        due("left(3, 0)", u.left(3, 0), 1);
+        due("left(3, 1)", u.left(3, 1), 1000051520);
+        due("done()", u.done(), 0);
+        due("greedy(119, 383)", u.greedy(119, 383), 4);
+        due("step(3)", u.step(3), 577309);
+        due("left(4, 1)", u.left(4, 1), 999856467134L);
+        due("done()", u.done(), 0);
+        // The fifth would be 577361, with 1000036595602 below.
+        due("greedy(557, 601)", u.greedy(557, 601), 4);
+        due("step(4)", u.step(4), NONE);
+        due("done()", u.done(), 0);
     }
 
     private static void step() {
@@ -523,6 +544,9 @@ public final class PromiseTests {
         UnitShares five = holding(10, 15, 20, 30, 1000);
         due("join(15, 30) with 10 there", five.join(15, 30), STATE);
         due("join(20, 30)", five.join(20, 30), 12);
+        hand(five, 10, 12, 15, 1000);
+        // Half of 10 is whole, but 10 is there only once.
+        due("join(10, 10)", five.join(10, 10), OUTSIDE);
         hand(five, 10, 12, 15, 1000);
     }
 
