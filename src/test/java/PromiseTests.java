@@ -128,6 +128,7 @@ public final class PromiseTests {
             " 4 9 16 25 49 64 ",
         };
         for (int sort = 0; sort <= 5; sort++) {
+            u = new UnitShares();
             for (String text : sorts[0].trim().split(" ")) {
                 int n = Integer.parseInt(text);
                 due("isOf(" + n + ", " + sort + ")", u.isOf(n, sort), sorts[sort].contains(" " + n + " ") ? 1 : 0);
@@ -135,6 +136,7 @@ public final class PromiseTests {
         }
         int[] sizes = {119, 59, 60, 20, 89, 9};
         for (int sort = 0; sort <= 5; sort++) {
+            u = new UnitShares();
             int total = 0;
             for (int n = 2; n <= 120; n++) {
                 total += u.isOf(n, sort);
