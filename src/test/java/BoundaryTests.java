@@ -374,6 +374,12 @@ public final class BoundaryTests {
             bar(12, true) = 0; smallest(1, 1, 4, 0, 120) = 15; hand: 2 3 10 15
             bar(15, true) = 0; smallest(1, 1, 4, 0, 120) = 18; hand: 2 3 9 18
             """);
+        // The first in order is 2, 11, 12 for the one, 5, 19, 20 for the other.
+        sentence("the one whose greatest NUMBER is least, by 1", """
+            smallest(89, 132, 3, 0, 120) = 11; hand: 3 4 11
+            bar(3, true) = 0; smallest(89, 132, 3, 0, 120) = 12; hand: 2 11 12
+            smallest(23, 76, 3, 0, 120) = 19; hand: 6 12 19
+            """);
         // 3, 4, 10, 15 has 15 too.
         sentence("of like ones the first IN ORDER", """
             smallest(3, 4, 4, 0, 120) = 15; hand: 2 10 12 15

@@ -20,6 +20,9 @@ public final class OracleTests {
         everyGreedy();
         everyPair();
         everyTriple();
+        everyRow();
+        everySplit();
+        everyJoin();
         System.out.println(compared + " answers compared, " + wrong + " wrong");
         if (wrong != 0) {
             System.exit(1);
@@ -75,6 +78,71 @@ public final class OracleTests {
                         same("triple(" + a + ", " + b + ", " + i + ", " + what + ")", u.triple(a, b, i, what), due.get(i)[what]);
                     }
                 }
+            }
+        }
+    }
+
+    /** All rows of 1 to 4 numbers up to 120, reckoned up by their sums. */
+    private static void everyRow() {
+        for (int k = 1; k <= 4; k++) {
+            int[] ways = new int[1001 * 1001];
+            int[] least = new int[1001 * 1001];
+            reckonRows(k, 2, 0, 0, 1, ways, least);
+            UnitShares u = new UnitShares();
+            for (int sum = 0; sum < ways.length; sum++) {
+                int a = sum / 1001, b = sum % 1001;
+                boolean fraction = a > 0 && b > 0 && gcd(a, b) == 1;
+                if (fraction && (ways[sum] > 0 || sum % 29 == 0)) {
+                    // An object seeks rows 60 times.
+                    u = u.count(2) > 58 ? new UnitShares() : u;
+                    String with = "(" + a + ", " + b + ", " + k + ", 0, 120)";
+                    same("ways" + with, u.ways(a, b, k, 0, 120), ways[sum]);
+                    same("smallest" + with, u.smallest(a, b, k, 0, 120), ways[sum] == 0 ? -1 : least[sum]);
+                }
+            }
+        }
+    }
+
+    private static void reckonRows(int missing, int from, int greatest, long above, long below, int[] ways, int[] least) {
+        if (missing == 0) {
+            long common = gcd(above, below);
+            long a = above / common, b = below / common;
+            if (a <= 1000 && b <= 1000) {
+                int sum = (int) (a * 1001 + b);
+                least[sum] = ways[sum] == 0 ? greatest : Math.min(least[sum], greatest);
+                ways[sum]++;
+            }
+            return;
+        }
+        for (int n = from; n <= 120; n++) {
+            reckonRows(missing - 1, n + 1, n, above * n + below, below * n, ways, least);
+        }
+    }
+
+    private static long gcd(long a, long b) {
+        return b == 0 ? a : gcd(b, a % b);
+    }
+
+    private static void everySplit() {
+        for (int n = 2; n <= 1000; n++) {
+            UnitShares u = new UnitShares();
+            u.put(n);
+            same("split(" + n + ")", u.split(n), n <= 31 ? n * (n + 1) : -102);
+            same("sum(0) behind it", u.sum(0), 1);
+            same("sum(1) behind it", u.sum(1), n);
+        }
+    }
+
+    /** Every two numbers that may be held, in both orders. */
+    private static void everyJoin() {
+        for (int n = 2; n <= 1000; n++) {
+            for (int m = 2; m <= 1000; m++) {
+                UnitShares u = new UnitShares();
+                u.put(n);
+                u.put(m);
+                boolean whole = n != m && n * m % (n + m) == 0;
+                same("join(" + n + ", " + m + ")", u.join(n, m), whole ? n * m / (n + m) : -102);
+                same("count(0) behind it", u.count(0), whole || n == m ? 1 : 2);
             }
         }
     }
