@@ -420,13 +420,15 @@ public final class BoundaryTests {
             greedy(605, 161) = 35; done() = 0; step(34) = 36; step(35) = NONE; count(4) = 35
             left(35, 0) = 332872893517; left(35, 1) = 570765031200; left(36, 0) = UNKNOWN
             """);
-        // Of all fractions those below come closest to the limits, on both sides.
+        // 804 by 845, 558 by 239, 119 by 383 and 557 by 601 come closest of all to the limits.
         sentence("or the next one would be above 1000000000: one below it comes", """
             greedy(804, 845) = 6; step(5) = 999760905; done() = 1; left(5, 1) = 999760905; left(6, 0) = 0
             """);
         sentence("or the next one would be above 1000000000", """
             greedy(177, 832) = 3; step(2) = 12172; step(3) = NONE; done() = 0; count(4) = 3
             left(3, 0) = 1; left(3, 1) = 1000051520; left(4, 0) = UNKNOWN
+            greedy(558, 239) = 16; step(15) = 9470; step(16) = NONE; done() = 0; count(4) = 16
+            left(16, 0) = 995; left(16, 1) = 995048590536; left(17, 0) = UNKNOWN
             """);
         sentence("or what would be left has a lower part above 1000000000000: one below it comes", """
             greedy(119, 383) = 4; step(3) = 577309; left(4, 0) = 1; left(4, 1) = 999856467134; done() = 0

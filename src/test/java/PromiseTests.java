@@ -345,7 +345,7 @@ public final class PromiseTests {
         greedyJustWithinAndJustBeyond();
     }
 
-    /** The fractions that come closest to the largest step and to the largest lower part. */
+    /** Fractions that come close to the largest step and to the largest lower part. */
     private static void greedyJustWithinAndJustBeyond() {
         UnitShares u = new UnitShares();
         due("greedy(804, 845)", u.greedy(804, 845), 6);
