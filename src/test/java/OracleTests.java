@@ -10,6 +10,14 @@ public final class OracleTests {
     private static final int RUNS = 400;
     private static final int CALLS = 512;
 
+    /** Fractions with many rows of five; the lower parts hold each prime power that few numbers up to 120 hold. */
+    private static final int[][] WITH_FIVES = {
+        {1, 1}, {1, 8}, {29, 20}, {35, 192}, {29, 162}, {26, 147}, {16, 87}, {11, 62}, {13, 74}, {22, 123},
+        {23, 129}, {25, 141}, {28, 159}, {31, 177}, {67, 366}, {73, 402}, {77, 426}, {79, 438}, {85, 474}, {89, 498},
+        {95, 534}, {103, 582}, {107, 606}, {109, 618}, {113, 642}, {115, 654}, {119, 678}, {121, 690}, {43, 300},
+        {11, 54}, {17, 96}, {11, 57}, {3, 17}, {7, 39}, {25, 132},
+    };
+
     private static int wrong = 0;
     private static long compared = 0;
 
@@ -21,6 +29,7 @@ public final class OracleTests {
         everyPair();
         everyTriple();
         everyRow();
+        rowsOfFive();
         everySplit();
         everyJoin();
         System.out.println(compared + " answers compared, " + wrong + " wrong");
@@ -117,6 +126,75 @@ public final class OracleTests {
         for (int n = from; n <= 120; n++) {
             reckonRows(missing - 1, n + 1, n, above * n + below, below * n, ways, least);
         }
+    }
+
+    /** All rows of five numbers up to 120 for some fractions, then those of each sort, up to lower bounds, with some barred. */
+    private static void rowsOfFive() {
+        Random random = new Random(5);
+        for (int[] fraction : WITH_FIVES) {
+            List<List<Integer>> all = allFives(fraction[0], fraction[1]);
+            for (int sort = 0; sort <= 5; sort++) {
+                compareFives(fraction, all, sort, 120, List.of());
+                List<Integer> row = all.get(random.nextInt(all.size()));
+                // The greatest of a row as the bound, and one below it.
+                compareFives(fraction, all, sort, row.get(4), List.of(2 + random.nextInt(119)));
+                compareFives(fraction, all, sort, row.get(4) - 1, List.of());
+                compareFives(fraction, all, sort, 120, List.of(row.get(random.nextInt(5)), 2 + random.nextInt(119)));
+            }
+        }
+    }
+
+    private static void compareFives(int[] fraction, List<List<Integer>> all, int sort, int bound, List<Integer> barred) {
+        int a = fraction[0], b = fraction[1];
+        UnitShares u = new UnitShares();
+        Model m = new Model();
+        for (int n : barred) {
+            u.bar(n, true);
+            m.bar(n, true);
+        }
+        List<List<Integer>> due = new ArrayList<>(all);
+        due.removeIf(row -> row.get(4) > bound || !row.stream().allMatch(n -> m.of(n, sort)));
+        String with = "(" + a + ", " + b + ", 5, " + sort + ", " + bound + ") without " + barred;
+        same("ways" + with, u.ways(a, b, 5, sort, bound), due.size());
+        for (int j = 0; j < 12 && !due.isEmpty(); j++) {
+            int i = j * (due.size() - 1) / 11;
+            same("take " + i + with, u.take(a, b, 5, sort, bound, i), 1);
+            sameHand("take " + i + with, u, due.get(i));
+        }
+        same("take past the end" + with, u.take(a, b, 5, sort, bound, due.size()), -1);
+        due.sort(Comparator.comparing(row -> row.get(4)));
+        same("smallest" + with, u.smallest(a, b, 5, sort, bound), due.isEmpty() ? -1 : due.get(0).get(4));
+        if (!due.isEmpty()) {
+            sameHand("smallest" + with, u, due.get(0));
+        }
+    }
+
+    private static void sameHand(String call, UnitShares u, List<Integer> numbers) {
+        same("count(0) behind " + call, u.count(0), numbers.size());
+        for (int i = 0; i < numbers.size(); i++) {
+            same("held(" + i + ") behind " + call, u.held(i), numbers.get(i));
+        }
+    }
+
+    /** In order: four numbers in every way that is not too much, and the fifth that follows from them. */
+    private static List<List<Integer>> allFives(long a, long b) {
+        List<List<Integer>> rows = new ArrayList<>();
+        for (int n = 2; n <= 120; n++) {
+            long a1 = a * n - b, b1 = b * n;
+            for (int m = n + 1; m <= 120 && a1 > 0; m++) {
+                long a2 = a1 * m - b1, b2 = b1 * m;
+                for (int k = m + 1; k <= 120 && a2 > 0; k++) {
+                    long a3 = a2 * k - b2, b3 = b2 * k;
+                    for (int j = k + 1; j <= 120 && a3 > 0; j++) {
+                        long a4 = a3 * j - b3, b4 = b3 * j;
+                        if (a4 > 0 && b4 % a4 == 0 && b4 / a4 > j && b4 / a4 <= 120) {
+                            rows.add(List.of(n, m, k, j, (int) (b4 / a4)));
+                        }
+                    }
+                }
+            }
+        }
+        return rows;
     }
 
     private static long gcd(long a, long b) {
